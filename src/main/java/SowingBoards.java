@@ -689,7 +689,7 @@ public final class SowingBoards {
     }
 
     private boolean isSo(int pit, int what, int v) {
-        int side = now.sideOf(pit);
+        int side = now.isOf(pit, 0) ? 0 : 1;
         switch (what) {
             case 0:
                 return side == v;
@@ -698,7 +698,7 @@ public final class SowingBoards {
             case 2:
                 return now.seeds[now.opposite(pit)] >= v;
             case 3:
-                return pit - now.firstOf(side) == v;
+                return pit - side * now.columns == v;
             default:
                 return (side == now.turn) == (v == 1);
         }
@@ -972,25 +972,22 @@ public final class SowingBoards {
         }
 
         private boolean hasPit(int pit) {
-            return pit >= 0 && pit < pits();
+            return pit >= 0 && pit < 2 * columns;
         }
 
-        private int sideOf(int pit) {
-            return pit < columns ? 0 : 1;
-        }
-
-        private int firstOf(int side) {
-            return side * columns;
+        private boolean isOf(int pit, int side) {
+            return pit >= side * columns && pit < (side + 1) * columns;
         }
 
         private int opposite(int pit) {
-            return pits() - 1 - pit;
+            return 2 * columns - 1 - pit;
         }
 
         private int inPitsOf(int side) {
             int sum = 0;
-            for (int pit = firstOf(side); pit < firstOf(side) + columns; pit++) {
-                sum += seeds[pit];
+            int first = side * columns;
+            for (int p = 0; p < columns; p++) {
+                sum += seeds[first + p];
             }
             return sum;
         }
@@ -1009,8 +1006,11 @@ public final class SowingBoards {
 
         private int emptyPitsOf(int side) {
             int empty = 0;
-            for (int pit = firstOf(side); pit < firstOf(side) + columns; pit++) {
-                empty += seeds[pit] == 0 ? 1 : 0;
+            int first = side * columns;
+            for (int p = 0; p < columns; p++) {
+                if (seeds[first + p] == 0) {
+                    empty++;
+                }
             }
             return empty;
         }
@@ -1039,7 +1039,7 @@ public final class SowingBoards {
         }
 
         private boolean canMove(int p) {
-            return p >= 0 && p < columns && seeds[firstOf(turn) + p] > 0;
+            return p >= 0 && p < columns && seeds[turn * columns + p] > 0;
         }
 
         private void pass() {
@@ -1068,10 +1068,15 @@ public final class SowingBoards {
             laws = byLaws;
             side = board.turn;
             p = byPit;
-            place = board.firstOf(side) + p;
+            place = side * board.columns + p;
             lifted = board.seeds[place];
             int had = board.stores[side];
-            sow(board);
+            laps = 0;
+            boolean goesOn = true;
+            for (int lap = 0; lap < MOST_LAPS && goesOn; lap++) {
+                goesOn = sowLap(board, place) && obeys(LAW_R);
+                laps++;
+            }
             if (obeys(LAW_C)) {
                 captureOpposite(board);
             }
@@ -1087,26 +1092,16 @@ public final class SowingBoards {
             return (laws & law) != 0;
         }
 
-        private void sow(Position board) {
-            int lap = 0;
-            boolean goesOn = true;
-            while (lap < MOST_LAPS && goesOn) {
-                goesOn = sowLap(board, place) && obeys(LAW_R);
-                lap++;
-            }
-            laps = lap;
-        }
-
         /** True, if the last SEED fell in a PIT that had SEEDS. */
         private boolean sowLap(Position board, int from) {
-            int left = board.seeds[from];
+            int inHand = board.seeds[from];
             board.seeds[from] = 0;
-            boolean leavesOut = obeys(LAW_K);
+            int leftOut = obeys(LAW_K) ? from : NONE;
             boolean hadSeeds = false;
-            for (; left > 0; left--) {
-                place = placeBehind(board, place);
-                if (leavesOut && place == from) {
-                    place = placeBehind(board, place);
+            for (int i = 0; i < inHand; i++) {
+                place = placeBehind(place, board.columns);
+                if (place == leftOut) {
+                    place = placeBehind(place, board.columns);
                 }
                 if (place == STORE) {
                     board.stores[side]++;
@@ -1119,21 +1114,17 @@ public final class SowingBoards {
             return hadSeeds;
         }
 
-        private int placeBehind(Position board, int at) {
-            int last = board.columns * (side + 1) - 1;
-            if (at == last && obeys(LAW_S)) {
+        private int placeBehind(int at, int columns) {
+            int last = columns * (side + 1) - 1;
+            if (at == last && (laws & LAW_S) != 0) {
                 return STORE;
             }
             int next = at == STORE ? last + 1 : at + 1;
-            return next < 2 * board.columns ? next : 0;
-        }
-
-        private boolean fellIn(Position board, int ofSide) {
-            return board.hasPit(place) && board.sideOf(place) == ofSide;
+            return next < 2 * columns ? next : 0;
         }
 
         private void captureOpposite(Position board) {
-            if (!fellIn(board, side) || board.seeds[place] != 1) {
+            if (!board.isOf(place, side) || board.seeds[place] != 1) {
                 return;
             }
             int facing = board.opposite(place);
@@ -1145,10 +1136,11 @@ public final class SowingBoards {
         }
 
         private void captureBackwards(Position board) {
-            if (!fellIn(board, 1 - side)) {
+            if (!board.isOf(place, 1 - side)) {
                 return;
             }
-            for (int pit = place; pit >= board.firstOf(1 - side); pit--) {
+            int first = (1 - side) * board.columns;
+            for (int pit = place; pit >= first; pit--) {
                 int taken = board.seeds[pit];
                 if (taken != 2 && taken != 3) {
                     return;
@@ -1347,7 +1339,7 @@ public final class SowingBoards {
         private boolean acceptBehind(int sign) {
             if (sign == ')' && deep > 0) {
                 bindWaiting(1);
-                waits -= waits > 0 ? 1 : 0;
+                dropOpening();
                 deep--;
                 return true;
             }
@@ -1355,11 +1347,19 @@ public final class SowingBoards {
             if (strength == 0 || strength == 1 && compared[deep]) {
                 return false;
             }
-            compared[deep] |= strength == 1;
+            if (strength == 1) {
+                compared[deep] = true;
+            }
             bindWaiting(strength);
             await(sign);
             wantsThing = true;
             return true;
+        }
+
+        private void dropOpening() {
+            if (waits > 0) {
+                waits--;
+            }
         }
 
         private void await(int sign) {
@@ -1618,8 +1618,8 @@ public final class SowingBoards {
         /** How far THE MOVER's STORE is ahead, if both play best for so many MOVES. */
         private int duel(Position from, int mostMoves, int byLaws) {
             start(from, Math.min(mostMoves, MOST_LOOKED_AHEAD), false, byLaws);
-            int lead = lead(this, 0);
-            return from.turn == 0 ? lead : -lead;
+            int ofSideZero = leadBehind(this, 0);
+            return from.turn == 0 ? ofSideZero : -ofSideZero;
         }
 
         private void tellDuel(Numbers numbers) {
@@ -1630,7 +1630,7 @@ public final class SowingBoards {
         }
 
         /** How far the STORE of side 0 is ahead, if both play best from this depth on. */
-        private static int lead(Tree tree, int depth) {
+        private static int leadBehind(Tree tree, int depth) {
             Position here = tree.at[depth];
             tree.lineSize[depth] = 0;
             if (depth >= tree.most || here.isOver()) {
@@ -1641,7 +1641,7 @@ public final class SowingBoards {
                 Position next = tree.at[depth + 1];
                 next.take(here);
                 if (tree.move.make(next, p, tree.laws)) {
-                    int lead = lead(tree, depth + 1);
+                    int lead = leadBehind(tree, depth + 1);
                     boolean better = here.turn == 0 ? lead > bestLead : lead < bestLead;
                     if (better || tree.lineSize[depth] == 0) {
                         bestLead = lead;
@@ -1714,17 +1714,17 @@ public final class SowingBoards {
 
     /** Pairs of numbers that were told, up to a limit. */
     private static final class Notes {
-        private final int[] first;
-        private final int[] second;
+        private final int[] first = new int[MOST_HEARD];
+        private final int[] second = new int[MOST_HEARD];
+        private final int most;
         private int size;
 
-        private Notes(int most) {
-            first = new int[most];
-            second = new int[most];
+        private Notes(int mostPairs) {
+            most = Math.min(mostPairs, MOST_HEARD);
         }
 
         private boolean add(int one, int two) {
-            if (size >= first.length) {
+            if (size >= most) {
                 return false;
             }
             first[size] = one;
