@@ -257,9 +257,21 @@ public final class SowingBoards {
 
     public int game() {
         int wrong = wrongInGame();
-        int answer = wrong == FINE ? doActs() : -1 - wrong;
+        if (wrong != FINE) {
+            text.clear();
+            return -1 - wrong;
+        }
+        before.take(now);
+        int done = 0;
+        while (done < text.length && doAct(text.at(done))) {
+            done++;
+        }
+        if (done > 0) {
+            history.push(before);
+        }
+        numbers.tell(done < text.length ? 1 : 0, now.turn);
         text.clear();
-        return answer;
+        return done;
     }
 
     private int wrongInGame() {
@@ -273,19 +285,6 @@ public final class SowingBoards {
 
     private static boolean isAct(int sign) {
         return sign >= '0' && sign <= '5' || sign == '*' || sign == '/';
-    }
-
-    private int doActs() {
-        before.take(now);
-        int done = 0;
-        while (done < text.length && doAct(text.at(done))) {
-            done++;
-        }
-        if (done > 0) {
-            history.push(before);
-        }
-        numbers.tell(done < text.length ? 1 : 0, now.turn);
-        return done;
     }
 
     private boolean doAct(int sign) {
@@ -450,16 +449,16 @@ public final class SowingBoards {
         if (n < 0 || n > MOST_REACHED) {
             return NONE;
         }
-        int least = Integer.MAX_VALUE;
+        int least = 0;
         int greatest = 0;
         shelf.clear();
         tree.start(now, n, false, lawSet);
         for (int i = 0; i < ENOUGH_ROWS; i++) {
             if (tree.depth == n) {
-                Position here = tree.here();
-                shelf.putNew(here);
-                least = Math.min(least, here.stores[now.turn]);
-                greatest = Math.max(greatest, here.stores[now.turn]);
+                int stored = tree.here().stores[now.turn];
+                least = shelf.size == 0 ? stored : Math.min(least, stored);
+                greatest = Math.max(greatest, stored);
+                shelf.putNew(tree.here());
             }
             if (!tree.step()) {
                 break;
@@ -709,7 +708,7 @@ public final class SowingBoards {
         if (fitting == 0) {
             return NOTHING;
         }
-        int fewest = Integer.MAX_VALUE;
+        int fewest = now.pits() + 1;
         int question = 0;
         for (int what = 0; what < MOST_TOLD.length; what++) {
             for (int v = 0; v <= MOST_TOLD[what]; v++) {
@@ -781,7 +780,7 @@ public final class SowingBoards {
         if (left == 0 || now.isOver()) {
             return NOTHING;
         }
-        int fewest = Integer.MAX_VALUE;
+        int fewest = LAW_SETS + 1;
         int chosen = 0;
         for (int p = 0; p < now.columns; p++) {
             if (now.canMove(p)) {

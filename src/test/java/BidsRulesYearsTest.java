@@ -17,6 +17,10 @@ public final class BidsRulesYearsTest {
         // Who bids less than 9 has 4 at most, like ones of 9 have 6 - 1.
         Due.same("worth 20", x.bids(20), 1);
         Due.row("worth 20", x, 9, 9);
+        int[] many = {3, 2, 4, 5, 2, 4, 5, 2, 4, 5, 2, 4, 5, 2, 2, 3, 3, 3, 1, 1, 1};
+        for (int v = 0; v <= 20; v++) {
+            Due.same("bids(" + v + ")", x.bids(v), many[v]);
+        }
         Due.same("bids(21)", x.bids(21), Due.NONE);
         Due.same("bids(-1)", x.bids(-1), Due.NONE);
         Due.row("the row stays", x, 9, 9);
@@ -51,7 +55,7 @@ public final class BidsRulesYearsTest {
         twenty();
     }
 
-    /** One SEED more comes to the STORE by each of its MOVES: 20 MOVES are ten of each side. */
+    /** What 20 MOVES bring, made one by one. */
     private static void twenty() {
         SowingBoards x = Due.made("21001", "");
         Due.rule(x, "p");
@@ -59,9 +63,13 @@ public final class BidsRulesYearsTest {
         Due.row("no laws", x, 300, 300);
         x = new SowingBoards();
         Due.laws(x, "s");
-        Due.board(x, "6" + Due.times("9", 12));
-        int byIt = ahead(x, "-p");
-        Due.same("20 moves", Due.other(x, "-p"), 600 + byIt - ahead(x, ""));
+        for (int seeds = 1; seeds <= 9; seeds++) {
+            Due.board(x, "6" + Due.times(Integer.toString(seeds), 12));
+            int byIt = ahead(x, "-p");
+            int asItIs = ahead(x, "");
+            Due.same("20 moves", Due.other(x, "-p"), 600 + byIt - asItIs);
+            Due.row("20 moves", x, 300 + byIt, 300 + asItIs);
+        }
     }
 
     /** By how much side 0 is ahead behind 20 MOVES, if it plays by a rule, the other by none. */

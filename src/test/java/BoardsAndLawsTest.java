@@ -121,6 +121,7 @@ public final class BoardsAndLawsTest {
             40, 40, 40, 40,
             40, 40, 39,
             40, 7, 11, 7, 0, 1, 0};
+        eachSign();
         Due.rule(x, "p");
         for (int i = 0; i < wrong.length; i++) {
             Due.same("rule " + wrong[i], Due.rule(x, wrong[i]), -1 - places[i]);
@@ -130,6 +131,19 @@ public final class BoardsAndLawsTest {
         Due.same("no rule", Due.rule(x, ""), 0);
         Due.same("best by none", x.best(), 0);
         Due.row("best by none", x, 5);
+    }
+
+    /** Each of the 256 signs ahead of a thing and behind one. */
+    private static void eachSign() {
+        SowingBoards x = new SowingBoards();
+        for (char sign = 0; sign < 256; sign++) {
+            boolean alone = "tapnleo0123456789".indexOf(sign) >= 0;
+            boolean binds = "+-*/<>=".indexOf(sign) >= 0;
+            int want = alone ? 0 : sign == '-' || sign == '(' ? -2 : -1;
+            Due.same("rule of sign " + (int) sign, Due.rule(x, "" + sign), want);
+            Due.same("t and sign " + (int) sign, Due.rule(x, "t" + sign), binds ? -3 : -2);
+            Due.same("t, sign " + (int) sign + ", 1", Due.rule(x, "t" + sign + "1"), binds ? 0 : -2);
+        }
     }
 
     private static void pitsAndStores() {

@@ -29,6 +29,20 @@ public final class ByTheRuleTest {
         x = circle("21001");
         Due.same("in a circle", x.when(3), 2);
         Due.row("in a circle", x, 0, 0);
+        x = ruled("6781522166671", "sc", "-n");
+        Due.same("60, the last that counts", x.when(7), 60);
+        Due.row("60", x, 22, 18);
+        x = ruled("6626726011143", "", "");
+        Due.same("61, one too many", x.when(5), Due.NOTHING);
+        Due.same("60 moves ahead of it", x.plays(60), 60);
+        Due.same("and one more", x.plays(1), 1);
+        Due.same("61", x.pit(5), 0);
+    }
+
+    private static SowingBoards ruled(String board, String laws, String rule) {
+        SowingBoards x = Due.made(board, laws);
+        Due.same("rule " + rule, Due.rule(x, rule), 0);
+        return x;
     }
 
     /** Without LAWS, the last PIT that can moves: two SEEDS go round for ever. */
@@ -52,6 +66,15 @@ public final class ByTheRuleTest {
         x.would(0);
         Due.same("never", x.ends(), Due.NOTHING);
         Due.row("the row stays", x, 1, 1, 1);
+        x = ruled("480853176", "t", "-n");
+        Due.same("99, the last that counts", x.ends(), 99);
+        x.plays(60);
+        Due.same("39 more", x.plays(60), 39);
+        x = ruled("6342424041032", "c", "n");
+        Due.same("100, one too many", x.ends(), Due.NOTHING);
+        x.plays(60);
+        Due.same("40 more", x.plays(60), 40);
+        Due.same("over behind 100", x.count(4), 1);
     }
 
     private static void round() {
@@ -71,6 +94,14 @@ public final class ByTheRuleTest {
         Due.row("the row stays", x);
         x = Due.made("20011", "");
         Due.same("over now", x.round(), Due.NOTHING);
+        x = ruled("401221111", "", "p");
+        Due.same("60, the last that counts", x.round(), 60);
+        Due.row("60", x, 24);
+        x = ruled("420211012", "rk", "p-n");
+        Due.same("61, one too many", x.round(), Due.NOTHING);
+        x.plays(1);
+        Due.same("a move later it is 60", x.round(), 60);
+        Due.row("a move later", x, 6);
     }
 
     private static void fullest() {

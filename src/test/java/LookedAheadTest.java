@@ -115,6 +115,14 @@ public final class LookedAheadTest {
         x = Due.made("3101100", "s");
         x.luck(3, 1);
         Due.row("three fourths", x, 3, 4);
+        x.luck(0, 0);
+        Due.row("no move", x, 1, 1);
+        x = Due.made("6111111111111", "");
+        x.luck(4, 0);
+        Due.row("all is one", x, 1, 1);
+        x = Due.made("6000111000000", "sx");
+        x.luck(2, 1);
+        Due.row("one of three", x, 1, 3);
         x = Due.made("20011", "scx");
         x.luck(3, 0);
         Due.row("over", x, 1, 1);
