@@ -1,3 +1,4 @@
+import java.util.Arrays;
 import java.util.NoSuchElementException;
 
 /** Compares answers with those that are due, and counts the wrong ones. */
@@ -10,6 +11,8 @@ final class Due {
 
     private static int wrong = 0;
     private static int asked = 0;
+    // The test that is running, ahead of what it calls.
+    private static String edge = "";
 
     private Due() {
     }
@@ -17,9 +20,17 @@ final class Due {
     static void same(String what, long got, long want) {
         asked++;
         if (got != want) {
-            wrong++;
-            System.out.println(what + " answered " + shown(got) + ", due is " + shown(want));
+            broken(what + " answered " + shown(got) + ", due is " + shown(want));
         }
+    }
+
+    static void broken(String how) {
+        wrong++;
+        System.out.println(edge + how);
+    }
+
+    static void edge(String name) {
+        edge = name.isEmpty() ? "" : name + ": ";
     }
 
     static void same(String what, boolean got, boolean want) {
@@ -121,6 +132,13 @@ final class Due {
         same("board " + boardSigns, board(x, boardSigns) >= 0, true);
         same("laws " + lawSigns, laws(x, lawSigns), lawSigns.length());
         return x;
+    }
+
+    /** So many numbers, all the same. */
+    static int[] counted(int many, int number) {
+        int[] all = new int[many];
+        Arrays.fill(all, number);
+        return all;
     }
 
     static String times(String signs, int n) {
