@@ -22,6 +22,7 @@ public final class AloneTest {
         Due.row("the row stays", x, rows[rows.length - 1]);
         Due.same("changes nothing", x.count(3), 18);
         for (int n = 0; n <= 99; n++) {
+            x = new SowingBoards();
             int pits = x.alone(n);
             Due.same("pits of " + n, x.count(9), pits);
             long sum = 0;
@@ -63,8 +64,8 @@ public final class AloneTest {
 
     /** What alone() tells comes out by comes(), as far as digits can tell it. */
     private static void both() {
-        SowingBoards x = new SowingBoards();
         for (int n = 1; n <= 99; n++) {
+            SowingBoards x = new SowingBoards();
             StringBuilder row = new StringBuilder();
             boolean digits = true;
             int pits = x.alone(n);

@@ -61,9 +61,9 @@ public final class BidsRulesYearsTest {
         Due.rule(x, "p");
         Due.same("no laws", Due.other(x, "0"), 600);
         Due.row("no laws", x, 300, 300);
-        x = new SowingBoards();
-        Due.laws(x, "s");
         for (int seeds = 1; seeds <= 9; seeds++) {
+            x = new SowingBoards();
+            Due.laws(x, "s");
             Due.board(x, "6" + Due.times(Integer.toString(seeds), 12));
             int byIt = ahead(x, "-p");
             int asItIs = ahead(x, "");

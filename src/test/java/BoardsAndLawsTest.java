@@ -135,8 +135,8 @@ public final class BoardsAndLawsTest {
 
     /** Each of the 256 signs ahead of a thing and behind one. */
     private static void eachSign() {
-        SowingBoards x = new SowingBoards();
         for (char sign = 0; sign < 256; sign++) {
+            SowingBoards x = new SowingBoards();
             boolean alone = "tapnleo0123456789".indexOf(sign) >= 0;
             boolean binds = "+-*/<>=".indexOf(sign) >= 0;
             int want = alone ? 0 : sign == '-' || sign == '(' ? -2 : -1;

@@ -42,6 +42,36 @@ public final class EdgesAloneTest {
         return java.util.Arrays.copyOf(seeds, pits);
     }
 
+    static void promise33WhatWasAskedAheadDoesNotMatter() {
+        SowingBoards x = new SowingBoards();
+        for (int n = 99; n >= 0; n--) {
+            x = n % 5 == 0 ? new SowingBoards() : x;
+            long[] row = row(n);
+            Due.same("alone(" + n + ")", x.alone(n), row.length);
+            Due.row("alone(" + n + ")", x, row);
+            Due.comes(x, Due.times("9", 20));
+            x.tries();
+        }
+    }
+
+    static void promise34WhatWasAskedAheadDoesNotMatter() {
+        SowingBoards x = new SowingBoards();
+        for (int i = 0; i < 5; i++) {
+            Due.same("12", Due.comes(x, "12"), 3);
+            Due.row("12", x, 3, 0);
+            Due.same("twenty", Due.comes(x, "1" + Due.times("0", 19)), 1);
+            Due.row("twenty", x, 1, 0);
+            Due.comes(x, Due.times("9", 20));
+            x.alone(99);
+        }
+        for (int n = 0; n <= 99; n++) {
+            x = new SowingBoards();
+            x.alone(n);
+            Due.same("2 behind alone(" + n + ")", Due.comes(x, "2"), 0);
+            Due.row("2 behind alone(" + n + ")", x, 0, 2);
+        }
+    }
+
     static void promise33AnotherNumberIsRefused() {
         for (int n : new int[] {MIN, -1, 100, 101, MAX}) {
             Twins.nothing("alone(" + n + ")", RICH, x -> x.alone(n), Due.NONE);

@@ -23,12 +23,20 @@ public final class EdgesByTheRuleTest {
         return ruled("21001", "", "p");
     }
 
-    /** Asked with a ROW that was told ahead, which stays. */
-    private static void nothing(String call, SowingBoards x, ToLongFunction<SowingBoards> one) {
-        x.reach(0);
-        long least = x.row(0);
-        Due.same(call, one.applyAsLong(x), Due.NOTHING);
-        Due.row(call + ": the ROW stays", x, least, least);
+    /** On a board with a ROW that was told and all else that can be changed, the call tells of none and changes nothing. */
+    private static void nothing(String call, String board, String laws, String rule, ToLongFunction<SowingBoards> one) {
+        Twins.nothing(call + " on " + board, x -> {
+            RICH.accept(x);
+            Due.board(x, board);
+            Due.laws(x, laws);
+            Due.rule(x, rule);
+            x.keep(0);
+            x.passes();
+            x.keep(1);
+            x.passes();
+            x.reach(0);
+            Due.text(x, "21234");
+        }, one, Due.NOTHING);
     }
 
     /** How many MOVES it takes by plays(), till what is looked for is so: at most 180. */
@@ -70,15 +78,15 @@ public final class EdgesByTheRuleTest {
     }
 
     static void promise29BehindMoreThan60IsNone() {
+        nothing("when(5)", "6626726011143", "", "", x -> x.when(5));
         SowingBoards x = ruled("6626726011143", "", "");
-        nothing("when(5)", x, y -> y.when(5));
         Due.same("by plays()", played(x, y -> y.pit(5) == 0 ? 1 : 0), 61);
     }
 
     static void promise29BehindNoneAsItIsOverFirst() {
-        nothing("over now", Sown.board("", 0, 0, 0, 1, 1), x -> x.when(2));
-        // Behind one MOVE it is over, with a SEED in PIT 1.
-        nothing("over first", Sown.board("", 0, 1, 1, 0, 0), x -> x.when(1));
+        nothing("when(2)", "20011", "", "p", x -> x.when(2));
+        // Behind one MOVE it is over, with 2 SEEDS in PIT 1.
+        nothing("when(1)", "21100", "", "", x -> x.when(1));
     }
 
     static void promise29FirstThatItIsEmpty() {
@@ -130,15 +138,15 @@ public final class EdgesByTheRuleTest {
     }
 
     static void promise30BehindMoreThan99IsNone() {
+        nothing("ends()", "6342424041032", "c", "n", x -> x.ends());
         SowingBoards x = ruled("6342424041032", "c", "n");
-        nothing("ends()", x, y -> y.ends());
         Due.same("by plays()", x.plays(60), 60);
         Due.same("by plays()", x.plays(60), 40);
         Due.same("over", x.count(4), 1);
     }
 
     static void promise30Never() {
-        nothing("ends()", circle(), x -> x.ends());
+        nothing("ends()", "21001", "", "p", x -> x.ends());
     }
 
     // ---- promise 31
@@ -150,8 +158,8 @@ public final class EdgesByTheRuleTest {
     }
 
     static void promise31BehindMoreThan60IsNone() {
+        nothing("round()", "420211012", "rk", "p-n", x -> x.round());
         SowingBoards x = ruled("420211012", "rk", "p-n");
-        nothing("round()", x, y -> y.round());
         x.plays(1);
         Due.same("a MOVE later it is 60", x.round(), 60);
         Due.row("a MOVE later it is 60", x, 6);
@@ -170,9 +178,9 @@ public final class EdgesByTheRuleTest {
     }
 
     static void promise31OverFirstIsNone() {
-        nothing("over now", Sown.board("", 0, 0, 0, 1, 1), x -> x.round());
-        nothing("over behind two", Sown.board("sx", 0, 1, 1, 0, 0), x -> x.round());
-        nothing("all empty", Sown.board("", 0, 0, 0, 0, 0), x -> x.round());
+        nothing("over now, round()", "20011", "", "p", x -> x.round());
+        nothing("over behind two, round()", "21100", "sx", "", x -> x.round());
+        nothing("all empty, round()", "20000", "", "", x -> x.round());
     }
 
     static void promise31PositionsDifferByTurn() {

@@ -230,6 +230,9 @@ public final class EdgesLookedAheadTest {
     static void promise27LikePositionsCountOnce() {
         SowingBoards x = Sown.board("", 0, 1, 0, 1, 0, 1, 0);
         Due.same("three of four rows", x.reach(3), 3);
+        // Both lead to 1 0 1 1: the first one and the last one.
+        x = Sown.board("r", 0, 1, 2, 0, 0);
+        Due.same("one of two rows", x.reach(1), 1);
     }
 
     static void promise27PositionsDifferByTurn() {

@@ -102,29 +102,33 @@ public final class EdgesOfBidsRulesYearsTest {
     }
 
     static void promise44Side0PlaysByItAndSide1ByTheRule() {
-        SowingBoards x = Due.made("3221303", "s");
         for (int side = 0; side < 2; side++) {
-            Due.same("by it", ahead(x, "p", "-p"), 3);
-            Due.same("as it is", ahead(x, "-p", "-p"), 1);
-            Due.same("the other way round", ahead(x, "-p", "p"), side == 0 ? -4 : -2);
+            Due.same("by it", ahead(unlike(side), "p", "-p"), 3);
+            Due.same("as it is", ahead(unlike(side), "-p", "-p"), 1);
+            Due.same("the other way round", ahead(unlike(side), "-p", "p"), side == 0 ? -4 : -2);
+            SowingBoards x = unlike(side);
             Due.rule(x, "-p");
             Due.same("side 0 by p, TURN of side " + side, Due.other(x, "p"), 602);
             Due.row("side 0 by p, TURN of side " + side, x, 303, 301);
-            x.passes();
         }
     }
 
-    /** By how much side 0 is ahead behind 20 MOVES; THE RULE is that of side 1 then. */
+    /** A board that is another one behind 20 MOVES, if one side plays by p, the other by -p, or both by one of them. */
+    private static SowingBoards unlike(int side) {
+        SowingBoards x = Due.made("3221303", "s");
+        if (side == 1) {
+            x.passes();
+        }
+        return x;
+    }
+
+    /** By how much side 0 is ahead behind 20 MOVES. */
     private static int ahead(SowingBoards x, String ofSide0, String ofSide1) {
-        x.keep(0);
         for (int i = 0; i < 20; i++) {
             Due.rule(x, x.count(1) == 0 ? ofSide0 : ofSide1);
             x.plays(1);
         }
-        Due.rule(x, ofSide1);
-        int ahead = x.store(0) - x.store(1);
-        x.again(0);
-        return ahead;
+        return x.store(0) - x.store(1);
     }
 
     static void promise44AnEmptyTextIsNone() {
@@ -161,8 +165,14 @@ public final class EdgesOfBidsRulesYearsTest {
     // ---- promise 45
 
     /** What years() tells, drawn here, with the MOVES made by moves() and plays(). */
-    private static void drawn(SowingBoards x, int seed, int n) {
-        x.keep(0);
+    private static void drawn(String board, String laws, int side, int seed, int n) {
+        SowingBoards x = Due.made(board, laws);
+        SowingBoards asked = Due.made(board, laws);
+        if (side == 1) {
+            x.passes();
+            asked.passes();
+        }
+        int columns = x.count(0);
         int r = seed;
         int made = 0;
         for (int i = 0; i < n && x.count(4) == 0; i++) {
@@ -171,8 +181,9 @@ public final class EdgesOfBidsRulesYearsTest {
                 x.plays(1);
             } else {
                 List<Integer> full = new ArrayList<>();
-                for (int p = 0; p < x.count(0); p++) {
-                    if (x.pit(x.count(1) * x.count(0) + p) > 0) {
+                int first = x.count(1) * columns;
+                for (int p = 0; p < columns; p++) {
+                    if (x.pit(first + p) > 0) {
                         full.add(p);
                     }
                 }
@@ -181,19 +192,16 @@ public final class EdgesOfBidsRulesYearsTest {
             }
             made++;
         }
-        int answer = 300 + x.store(0) - x.store(1);
-        int turn = x.count(1);
-        x.again(0);
-        Due.same("years(" + seed + ", " + n + ")", x.years(seed, n), answer);
-        Due.row("years(" + seed + ", " + n + ")", x, made, turn);
+        Due.same("years(" + seed + ", " + n + ")", asked.years(seed, n), 300 + x.store(0) - x.store(1));
+        Due.row("years(" + seed + ", " + n + ")", asked, made, x.count(1));
     }
 
     static void promise45From1To60() {
         for (int n : new int[] {1, 2, 3, 58, 59, 60}) {
             for (int seed = 0; seed < 8; seed++) {
-                drawn(Due.made("29999", "scx"), seed, n);
+                drawn("29999", "scx", 0, seed, n);
                 // Without LAWS it is seldom over: all MOVES are made.
-                drawn(Due.made("29999", ""), seed, n);
+                drawn("29999", "", 0, seed, n);
             }
         }
         SowingBoards x = Due.made("29999", "");
@@ -210,15 +218,15 @@ public final class EdgesOfBidsRulesYearsTest {
 
     static void promise45AnySeed() {
         for (int seed : new int[] {MIN, MIN + 1, -1, 0, 1, 65535, 65536, MAX}) {
-            drawn(Due.made("29999", "scx"), seed, 20);
-            drawn(Due.made("3333333", "sr"), seed, 20);
+            drawn("29999", "scx", 0, seed, 20);
+            drawn("3333333", "sr", 0, seed, 20);
         }
     }
 
     static void promise45WithoutSign() {
         // About half of the DRAWS have an R below 0 as an int.
         for (int seed = -40; seed < 0; seed++) {
-            drawn(Due.made("6123456654321", "s"), seed, 4);
+            drawn("6123456654321", "s", 0, seed, 4);
         }
     }
 
@@ -230,23 +238,21 @@ public final class EdgesOfBidsRulesYearsTest {
 
     static void promise45OverFirst() {
         for (int seed = 0; seed < 20; seed++) {
-            drawn(Due.made("21100", "scx"), seed, 60);
-            drawn(Due.made("21201", "scx"), seed, 60);
+            drawn("21100", "scx", 0, seed, 60);
+            drawn("21201", "scx", 0, seed, 60);
         }
     }
 
     static void promise45PitsThatAreNotEmptyFromTheFirstOn() {
         for (int seed = 0; seed < 20; seed++) {
-            drawn(Due.made("6010011110010", ""), seed, 1);
-            drawn(Due.made("6010011110010", ""), seed, 2);
+            drawn("6010011110010", "", 0, seed, 1);
+            drawn("6010011110010", "", 0, seed, 2);
         }
     }
 
     static void promise45TheStoreOfSide0ThoughTheMoverIsSide1() {
         for (int seed = 0; seed < 10; seed++) {
-            SowingBoards x = Due.made("29999", "scx");
-            x.passes();
-            drawn(x, seed, 5);
+            drawn("29999", "scx", 1, seed, 5);
         }
     }
 }

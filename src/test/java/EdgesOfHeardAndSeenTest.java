@@ -388,6 +388,10 @@ public final class EdgesOfHeardAndSeenTest {
     }
 
     static void promise41NothingToldWithout() {
+        Twins.rowAlone("none is left", x -> {
+            RICH.accept(x);
+            x.saw(2, 6);
+        }, x -> x.guess(), 0);
         SowingBoards x = Sown.board("", 0, 1, 1, 1, 1);
         x.would(0);
         x.saw(0, 0);
@@ -501,6 +505,8 @@ public final class EdgesOfHeardAndSeenTest {
         tries(x, 2, 32);
         x = Sown.board("", 0, 1, 0, 1, 0, 0, 0, 0, 0);
         tries(x, 0, 64);
+        x = Sown.board("", 0, 0, 1, 0, 1, 0, 0, 0, 0, 0, 0, 0, 0);
+        tries(x, 1, 64);
     }
 
     static void promise42OfTheSetsThatAreLeft() {

@@ -263,6 +263,13 @@ public final class EdgesOfMovesByLawsTest {
         Sown.by("t", 0, 5, 0, 0, 0, 0, 1).gives(2, 1, 5, 0, 1, 1, 1, 1, 0);
     }
 
+    static void term1WhatIsSownAndCapturedComesTogether() {
+        Sown.by("sc", 2, 0, 0, 7, 0, 0, 0).gives(3, 1, 2, 1, 1, 0, 0, 1, 1);
+        Sown.by("st", 2, 0, 0, 2, 1, 0, 0).gives(3, 1, 3, 0, 0, 0, 0, 0, 0);
+        Sown.by("sct", 2, 0, 0, 2, 2, 0, 0).gives(4, 1, 3, 0, 0, 0, 0, 0, 0);
+        Sown.by("sct", 0, 1, 0, 0, 0, 2, 0).gives(3, 1, 1, 0, 0, 0, 0, 0, 0);
+    }
+
     static void term1ByTEachPitOfSixColumns() {
         Sown.by("t", 5, 0, 0, 0, 0, 0, 6, 1, 2, 1, 2, 1, 2).gives(15, 1, 11, new int[12]);
     }

@@ -189,6 +189,9 @@ public final class EdgesOfMovesTest {
 
     /** 100 SEEDS in PITS, 98 in the STORE of a side, 2 in that of the other one, by LAWS c. */
     private static void almostFull(SowingBoards x, int side) {
+        RICH.accept(x);
+        x.forget();
+        x.heard(3, 0);
         Due.board(x, "20000");
         Due.laws(x, "c");
         if (side == 1) {
@@ -210,7 +213,10 @@ public final class EdgesOfMovesTest {
         for (int i = 0; i < 11; i++) {
             x.adds(other, 9);
         }
+        x.keep(0);
+        x.keep(1);
         x.adds(other, 1);
+        Due.text(x, "21234");
     }
 
     static void promise13TwoHundredAreTaken() {

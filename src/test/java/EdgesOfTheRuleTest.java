@@ -52,6 +52,24 @@ public final class EdgesOfTheRuleTest {
         wrong(40, Due.times("1+", 19) + "12+");
     }
 
+    static void termRuleARefusedTextLeavesNothingForTheNext() {
+        String[] refused = {"-", "1-", "1*", "1<", "(", "-(-(-(-(", "((((1<2", "999", "1000", "1<2<3", Due.times("-", 40),
+            Due.times("-", 41), Due.times("1-", 20), Due.times("(1)*", 10)};
+        for (String rule : refused) {
+            for (int by = 0; by < 2; by++) {
+                SowingBoards x = Due.made("21201", "scx");
+                Due.text(x, rule);
+                Due.same("refused " + rule, by == 0 ? x.rule() < 0 : x.other() < 0, !rule.equals("999"));
+                Due.same("then 2-t<(7+l)", Due.rule(x, "2-t<(7+l)"), 0);
+                x.worth(1);
+                Due.row("then 2-t<(7+l)", x, 1);
+                Due.same("then 2", Due.rule(x, "2"), 0);
+                x.worth(1);
+                Due.row("then 2", x, 2);
+            }
+        }
+    }
+
     static void termRuleTheFirst40CouldEndOrGoOn() {
         wrong(40, Due.times("1+", 19) + "12" + "x");
         wrong(40, Due.times("1+", 20) + "x");
@@ -347,6 +365,25 @@ public final class EdgesOfTheRuleTest {
         thing("o", 0, 1, "t", 1, 1, 1, 0);
         // What lies in the STORES and in his own PITS does not count.
         thing("o", 0, 1, "s", 5, 1, 0, 0);
+    }
+
+    static void termRuleWhatLiesInTheStoresDoesNotCount() {
+        // Each STORE has 1; PIT 1 of a side brings one more, then side 0 has 1 0, or side 1 has 0 0.
+        SowingBoards x = Sown.board("s", 0, 1, 1, 0, 1);
+        x.moves(1);
+        x.moves(1);
+        x.adds(1, 1);
+        x.adds(3, 1);
+        String[] rules = {"t", "a", "p", "n", "l", "e", "o"};
+        int[][] wants = {{1, 0, 1, 1, 1, 1, 1}, {1, 0, 1, 1, 1, 2, 2}};
+        for (int side = 0; side < 2; side++) {
+            for (int i = 0; i < rules.length; i++) {
+                Due.rule(x, rules[i]);
+                Due.same(rules[i] + " of side " + side, x.worth(1), 0);
+                Due.row(rules[i] + " of side " + side, x, wants[side][i]);
+            }
+            x.passes();
+        }
     }
 
     /** The rule tells this of a MOVE by PIT p of side 0, and of side 1 on the board turned round. */

@@ -239,6 +239,9 @@ public final class EdgesOfWhatAMoveDoesTest {
         SowingBoards x = Sown.board("sx", 0, 1, 1, 0, 1, 0, 0, 0, 0);
         Due.same("2", x.longest(), 2);
         Due.row("not 3 1", x, 3, 0);
+        x = Sown.board("sx", 0, 1, 0, 3, 1, 0, 0, 0, 0);
+        Due.same("2", x.longest(), 2);
+        Due.row("not 3 2, though that brings one more", x, 3, 0);
     }
 
     static void promise21MoreMovesThoughTheyBringNoMore() {
@@ -319,6 +322,13 @@ public final class EdgesOfWhatAMoveDoesTest {
         Due.same("TURN stays", x.risks(1), 0);
         Due.laws(x, "s");
         Due.same("TURN goes", x.risks(1), 1);
+        Twins.nothing("TURN stays", y -> {
+            RICH.accept(y);
+            y.passes();
+        }, y -> y.risks(0), 0);
+        // He could take 1 more, and the other side 1 if TURN were its own.
+        x = Sown.board("sx", 0, 2, 1, 0, 1);
+        Due.same("TURN stays, and he could go on", x.risks(1), 0);
     }
 
     static void promise23BehindTheMove() {

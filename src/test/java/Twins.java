@@ -1,45 +1,73 @@
+import java.util.List;
 import java.util.function.Consumer;
 import java.util.function.ToLongFunction;
 
 /** Two objects with the same calls behind them: one more call is made of the first, then all that they answer is compared. */
 final class Twins {
-    private final String call;
-    private final SowingBoards x = new SowingBoards();
-    private final SowingBoards twin = new SowingBoards();
+    /** What an object answers as the very first thing behind the call, or a number that stands for all of it. */
+    private static final List<ToLongFunction<SowingBoards>> FIRST_ANSWERS = List.of(
+        x -> x.count(2), x -> x.count(5), x -> x.sign(0), x -> x.board(), x -> x.passes(), x -> x.undo(), x -> x.looks(0),
+        x -> x.adds(0, 1), x -> x.adds(3, 1), x -> x.heard(1, 1), x -> x.saw(0, 0), x -> x.fits(), x -> x.guess(), x -> x.best(),
+        x -> x.would(0), x -> x.again(0) ? x.looks(0) * 10 + x.adds(0, 1) : Due.NONE,
+        x -> x.again(1) ? x.looks(0) * 10 + x.adds(0, 1) : Due.NONE,
+        x -> onABoard(x).worth(0) + Due.rowOf(x, 0), x -> onABoard(x).fits(), x -> onABoard(x).guess());
 
-    private Twins(String call, Consumer<SowingBoards> made, ToLongFunction<SowingBoards> one, long want) {
+    private final String call;
+    private final Consumer<SowingBoards> made;
+    private final ToLongFunction<SowingBoards> one;
+    private final boolean readsText;
+    private SowingBoards x;
+    private SowingBoards twin;
+
+    private Twins(String call, Consumer<SowingBoards> made, ToLongFunction<SowingBoards> one, boolean readsText) {
         this.call = call;
+        this.made = made;
+        this.one = one;
+        this.readsText = readsText;
+    }
+
+    /** Makes both objects; what the call answers. */
+    private long make() {
+        x = new SowingBoards();
+        twin = new SowingBoards();
         made.accept(x);
         made.accept(twin);
-        Due.same(call, one.applyAsLong(x), want);
+        long answer = one.applyAsLong(x);
+        if (readsText) {
+            twin.end(0);
+        }
+        return answer;
     }
 
     /** The call answers so, and all is as if it had not been made. */
     static void nothing(String call, Consumer<SowingBoards> made, ToLongFunction<SowingBoards> one, long want) {
-        Twins twins = new Twins(call, made, one, want);
+        Twins twins = new Twins(call, made, one, false);
+        Due.same(call, twins.make(), want);
         twins.rows();
         twins.all();
     }
 
     /** The call answers so, and THE TEXT is empty; all else is as if it had not been made. */
     static void textAlone(String call, Consumer<SowingBoards> made, ToLongFunction<SowingBoards> one, long want) {
-        Twins twins = new Twins(call, made, one, want);
+        Twins twins = new Twins(call, made, one, true);
+        Due.same(call, twins.make(), want);
         Due.same(call + ": signs of THE TEXT", twins.x.count(10), 0);
-        twins.twin.end(0);
         twins.rows();
         twins.all();
     }
 
     /** The call answers so, and the ROW is these; all else is as if it had not been made. */
     static void rowAlone(String call, Consumer<SowingBoards> made, ToLongFunction<SowingBoards> one, long want, long... row) {
-        Twins twins = new Twins(call, made, one, want);
+        Twins twins = new Twins(call, made, one, false);
+        Due.same(call, twins.make(), want);
         Due.row(call, twins.x, row);
         twins.all();
     }
 
     /** The call answers at least 0, and nothing but the ROW is changed, whatever it is. */
     static void anyRowAlone(String call, Consumer<SowingBoards> made, ToLongFunction<SowingBoards> one) {
-        Twins twins = new Twins(call, made, x -> one.applyAsLong(x) >= 0 ? 1 : 0, 1);
+        Twins twins = new Twins(call, made, one, false);
+        Due.same(call + " is not refused", twins.make() >= 0, true);
         twins.all();
     }
 
@@ -74,6 +102,12 @@ final class Twins {
         x.sheet(3, 0, 0, 0);
     }
 
+    /** Where what was heard and seen, and THE RULE, tell something, whatever the position was. */
+    private static SowingBoards onABoard(SowingBoards x) {
+        Due.board(x, "421034112");
+        return x;
+    }
+
     private void same(String what, long got, long want) {
         Due.same(call + ", then " + what, got, want);
     }
@@ -105,6 +139,16 @@ final class Twins {
         }
         same("board()", x.board(), twin.board());
         position();
+        firstAnswers();
+    }
+
+    /** Each of a new pair: what was asked ahead could have changed both alike. */
+    private void firstAnswers() {
+        for (int i = 0; i < FIRST_ANSWERS.size(); i++) {
+            make();
+            ToLongFunction<SowingBoards> first = FIRST_ANSWERS.get(i);
+            same("answer " + i, first.applyAsLong(x), first.applyAsLong(twin));
+        }
     }
 
     private void position() {
