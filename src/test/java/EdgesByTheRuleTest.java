@@ -79,6 +79,7 @@ public final class EdgesByTheRuleTest {
 
     static void promise29BehindMoreThan60IsNone() {
         nothing("when(5)", "6626726011143", "", "", x -> x.when(5));
+        nothing("when(6)", "6222222222222", "", "p", x -> x.when(6));
         SowingBoards x = ruled("6626726011143", "", "");
         Due.same("by plays()", played(x, y -> y.pit(5) == 0 ? 1 : 0), 61);
     }
@@ -175,6 +176,20 @@ public final class EdgesByTheRuleTest {
         SowingBoards x = ruled("22000", "", "p");
         Due.same("round()", x.round(), 5);
         Due.row("behind one it was so", x, 1);
+    }
+
+    static void promise31WhatWasAskedAheadDoesNotMatter() {
+        SowingBoards x = circle();
+        for (int i = 0; i < 8; i++) {
+            Due.same("round()", x.round(), 4);
+            Due.row("round()", x, 0);
+            Due.same("once more", x.round(), 4);
+            Due.row("once more", x, 0);
+            x.reach(i % 4);
+            Due.same("behind reach()", x.round(), 4);
+            Due.row("behind reach()", x, 0);
+            x.plays(1);
+        }
     }
 
     static void promise31OverFirstIsNone() {

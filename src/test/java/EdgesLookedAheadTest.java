@@ -235,6 +235,16 @@ public final class EdgesLookedAheadTest {
         Due.same("one of two rows", x.reach(1), 1);
     }
 
+    static void promise27WhatWasAskedAheadDoesNotMatter() {
+        SowingBoards x = Sown.board("", 0, 1, 0, 1, 0, 1, 0);
+        for (int i = 0; i < 4; i++) {
+            Due.same("reach(3)", x.reach(3), 3);
+            x.round();
+            Due.same("reach(0)", x.reach(0), 1);
+            x.reach(2);
+        }
+    }
+
     static void promise27PositionsDifferByTurn() {
         // Two like positions but for TURN.
         SowingBoards x = Due.made("3011201", "srckxt");

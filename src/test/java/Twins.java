@@ -10,7 +10,7 @@ final class Twins {
         x -> x.adds(0, 1), x -> x.adds(3, 1), x -> x.heard(1, 1), x -> x.saw(0, 0), x -> x.fits(), x -> x.guess(), x -> x.best(),
         x -> x.would(0), x -> x.again(0) ? x.looks(0) * 10 + x.adds(0, 1) : Due.NONE,
         x -> x.again(1) ? x.looks(0) * 10 + x.adds(0, 1) : Due.NONE,
-        x -> onABoard(x).worth(0) + Due.rowOf(x, 0), x -> onABoard(x).fits(), x -> onABoard(x).guess());
+        x -> onABoard(x).worth(3) + Due.rowOf(x, 0), x -> onABoard(x).fits(), x -> onABoard(x).guess());
 
     private final String call;
     private final Consumer<SowingBoards> made;
