@@ -75,6 +75,17 @@ public final class EdgesLookedAheadTest {
         Due.same("as far behind as can be", x.looks(4), 100);
     }
 
+    static void promise25MoreThan300Behind() {
+        SowingBoards x = Sown.farBehind();
+        Due.same("300 and 0 - 310", x.looks(0), -10);
+        Due.row("no MOVES", x);
+        x.sheet(2, 4, 1, 0);
+        Due.same("300 and 0 - 310 behind MOVES that bring nothing", x.looks(1), -10);
+        Due.row("PIT 0", x, 0);
+        x.passes();
+        Due.same("of side 1", x.looks(0), 610);
+    }
+
     static void promise25OfAsGoodMovesTheFirstPit() {
         SowingBoards x = Sown.board("", 0, 0, 1, 1, 0, 1, 1);
         Due.same("all are as good", x.looks(4), 300);

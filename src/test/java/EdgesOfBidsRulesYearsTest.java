@@ -101,6 +101,12 @@ public final class EdgesOfBidsRulesYearsTest {
         }
     }
 
+    static void promise44MoreThan300Behind() {
+        SowingBoards x = Sown.farBehind();
+        Due.same("both are as far behind", Due.other(x, "p"), 600);
+        Due.row("300 and 0 - 310, twice", x, -10, -10);
+    }
+
     static void promise44Side0PlaysByItAndSide1ByTheRule() {
         for (int side = 0; side < 2; side++) {
             Due.same("by it", ahead(unlike(side), "p", "-p"), 3);
@@ -234,6 +240,12 @@ public final class EdgesOfBidsRulesYearsTest {
         for (int n : new int[] {1, 60}) {
             Twins.rowAlone("over, years(7, " + n + ")", OVER, x -> x.years(7, n), 298, 0, 1);
         }
+    }
+
+    static void promise45MoreThan300Behind() {
+        SowingBoards x = Sown.farBehind();
+        Due.same("300 and 0 - 310", x.years(1, 1), -10);
+        Due.row("no MOVE", x, 0, 0);
     }
 
     static void promise45OverFirst() {

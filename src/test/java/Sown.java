@@ -30,6 +30,19 @@ final class Sown {
         return x;
     }
 
+    /** The STORE of side 1 has 310 by sheets, more than could be told by adds(); all PITS are empty, TURN is of side 0. */
+    static SowingBoards farBehind() {
+        SowingBoards x = Due.made("20000", "c");
+        for (int taken = 0; taken < 310; taken += 10) {
+            x.passes();
+            x.sheet(2, 4, 9, -4);
+            x.moves(0);
+        }
+        x.sheet(3, 0, 0, 0);
+        Due.stores("far behind", x, 0, 310);
+        return x;
+    }
+
     /** The place is told for side 0, and so are the SEEDS then. */
     void gives(int gain, int laps, int place, int... then) {
         gives(0, gain, laps, place, then);
